@@ -202,6 +202,13 @@ public final class BestTest {
         Due.row(x, 0, 2, 0, 210);
         due.is("one", x.hisCost(0, 0, 0), 1);
         due.is("the least", x.hisCost(0, 0, 1), 100);
+        // 280, 0: 210; 100: 183 (110 / 4 is 27); 150: 175.
+        Due.row(x, 0, 1, 0, 210, 100, 183, 150, 175);
+        due.is("three rows", x.hisCost(0, 0, 2), 100);
+        Due.row(x, 0, 1, 0, 210, 100, 184, 150, 175);
+        due.is("a wrong one among them", x.hisCost(0, 0, 0), 0);
+        Due.row(x, 0, 1, 0, 210, 100, 183, 150, 176);
+        due.is("a wrong one at the end", x.hisCost(0, 0, 0), 0);
         // He who takes the bid stands no more open, though SAID is as told.
         Due.row(x, 0, 2, 280, 280);
         int open = 0;
@@ -294,6 +301,22 @@ public final class BestTest {
         due.is("missed", y.market(0, 1999, 0, 2), 1);
         y.word(0, 0);
         due.is("not missed", y.market(0, 1999, 0, 2), 0);
+        CarpetEleven z = by("least 900 * bid;first 900;pull 0;");
+        z.seller(0, 9);
+        Due.row(z, 0, 2, 10);
+        due.is("missed by LEAST of bid 0", z.market(0, 1999, 0, 2), 1);
+        CarpetEleven cheap = by("least 0;first 1;pull 0;");
+        cheap.seller(3, 9);
+        Due.row(cheap, 0, 2, -7);
+        due.is("a LIMIT below 0 is 0", cheap.market(0, 1999, 0, 0), 0);
+        Due.row(cheap, 0, 2, 1);
+        due.is("a LIMIT of 1", cheap.market(0, 1999, 0, 0), 1);
+        CarpetEleven dear = by("least 0;first 1999;pull 0;");
+        dear.seller(3, 9);
+        Due.row(dear, 0, 2, 1998, 3000);
+        due.is("1998 makes him go", dear.market(0, 1999, 0, 0), 0);
+        Due.row(dear, 0, 2, 3000);
+        due.is("a LIMIT above 1999 is 1999", dear.market(0, 1999, 0, 1), 1999);
     }
 
     private static void judge() {

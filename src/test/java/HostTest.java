@@ -58,6 +58,9 @@ public final class HostTest {
         x.sheet(0, -1, 0);
         x.sheet(0, 2, 2);
         due.is("all 0, behind a missing one too", x.market(0, 1999, 0, 0), 0);
+        due.is("0, 0 is a SELLER", x.sellers(0, 2, 0, 1), 1);
+        due.is("KIND 0", x.told(1, 0), 0);
+        due.is("NUMBER 0", x.told(1, 2), 0);
     }
 
     private static void cell() {

@@ -70,6 +70,10 @@ public final class TextsTest {
         fault(" least cost; pull", 13);
         fault("leastcost;", 0);
         fault("least costs;", 6);
+        fault("least costz;", 6);
+        fault("least zcost;", 6);
+        fault("least xost;", 6);
+        fault("least cosx;", 6);
         fault("least cost1;", 10);
         fault("least 1cost;", 7);
         fault("least 12345;", 6);
