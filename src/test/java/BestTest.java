@@ -39,17 +39,18 @@ public final class BestTest {
         due.is("bestRule(0, -1)", x.bestRule(0, -1), -2);
         due.is("bestRule(0, 3)", x.bestRule(0, 3), -2);
         for (int limit = 100; limit <= 300; limit += 50) {
-            x.set(2, 0, limit);
-            sameAsByHand(x);
+            CarpetEleven y = one(0, 1003);
+            y.set(2, 0, limit);
+            sameAsByHand(y);
         }
         x.set(2, 0, 107);
         due.is("by none", x.bestRule(0, 0), -1);
         due.is("by none", x.bestRule(0, 1), -1);
         due.is("by none", x.bestRule(0, 2), -1);
         due.is("nothing changed", x.told(0, 4), 0);
-        x.set(2, 0, 250);
-        x.word(0, 0);
-        sameAsByHand(x);
+        CarpetEleven later = one(0, 1003);
+        later.word(0, 0);
+        sameAsByHand(later);
         x.agree(0);
         due.is("SOLD", x.bestRule(0, 0), -1);
         due.is("SOLD", x.bestRule(0, 1), -1);
@@ -212,14 +213,16 @@ public final class BestTest {
         // He who takes the bid stands no more open, though SAID is as told.
         Due.row(x, 0, 2, 280, 280);
         int open = 0;
-        for (int cost = 0; cost < 1000; cost++) {
-            x.set(3, 0, cost);
-            if (x.word(0, 280) == 0 && x.told(0, 3) == 280) {
-                open++;
+        for (int hundred = 0; hundred < 10; hundred++) {
+            CarpetEleven y = one(0, 3);
+            for (int i = 0; i < 100; i++) {
+                y.set(3, 0, 100 * hundred + i);
+                if (y.word(0, 280) == 0 && y.told(0, 3) == 280) {
+                    open++;
+                }
             }
         }
         due.is("as asked one by one", x.hisCost(0, 0, 0), open);
-        x.set(3, 0, 100);
         x.word(0, 5);
         due.is("from the beginning on", x.hisCost(0, 0, 0), open);
         due.is("COST stays", x.told(0, 1), 100);
@@ -381,13 +384,12 @@ public final class BestTest {
         due.is("part 2", x.odds(0, 0, 1, 2), no);
         int[] seeds = {0, 5, -3, Integer.MAX_VALUE - 4};
         for (int seed : seeds) {
+            CarpetEleven y = one(1, 1503);
+            int sold = 0;
             for (int many = 1; many <= 30; many++) {
-                int sold = 0;
-                for (int i = 0; i < many; i++) {
-                    sold += x.drawn(0, seed + i) == 1 ? 1 : 0;
-                }
-                long above = x.odds(0, seed, many, 0);
-                long below = x.odds(0, seed, many, 1);
+                sold += y.drawn(0, seed + many - 1) == 1 ? 1 : 0;
+                long above = y.odds(0, seed, many, 0);
+                long below = y.odds(0, seed, many, 1);
                 due.is("the same part", above * many, below * sold);
                 due.holds("below the line", below >= 1);
                 for (int d = 2; d <= 30; d++) {

@@ -161,6 +161,9 @@ public final class RandomRunsTest {
     }
 
     private static void call(int run, String name, int... args) throws Exception {
+        if (left <= 0) {
+            return;
+        }
         left--;
         Class<?>[] types = new Class<?>[args.length];
         Integer[] boxed = new Integer[args.length];
