@@ -467,6 +467,10 @@ public final class TermsTest {
         x.agree(0);
         due.is("set to what it was", x.set(3, 0, 3), 3);
         due.is("it begins anew, too", x.told(0, 5), 0);
+        CarpetEleven zero = by("least bid+said+cups;first 5+bid+said+cups;pull 0;", 0, 9);
+        due.is("one who comes", zero.told(0, 3), 5);
+        zero.word(0, 0);
+        due.is("anew", zero.anew(0), 5);
         CarpetEleven gone = by(text, 3, 0);
         gone.word(0, 0);
         gone.word(0, 0);
@@ -542,6 +546,11 @@ public final class TermsTest {
         due.is("bid 4, 10, 1 CUP", y.told(0, 3), 1000 - 249 + 15);
         // What one would take is by it, too: he would say 1000 - 10 + 99 at 960, at most 1000.
         due.is("pull keeps him from it", hears("least 0;first 1000;pull 99;", 4, 9, 960), 0);
+        // Since he says SAID at most, SAID is taken, with pull, too.
+        for (int kind = 0; kind < 6; kind++) {
+            due.is("SAID", hears("least 999;first 1000;pull 99;", kind, 9, 1000), 1);
+            due.is("one below", hears("least 999;first 1000;pull 99;", kind, 9, 999), kind == 5 ? 1 : 0);
+        }
         CarpetEleven slip = by("least 0;first 1000;pull 99;", 3, 9);
         slip.word(0, 5);
         due.is("a SLIP says SAID at most", slip.told(0, 3), 1000);

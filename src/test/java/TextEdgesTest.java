@@ -11,6 +11,8 @@ public final class TextEdgesTest {
         tapeOf160();
         tapeIsEmptyBehindAText();
         tapeIsEmptyBehindAFault();
+        nothingIsLeftOfATapeAhead();
+        nothingIsLeftOfATextAhead();
         eachByteBetweenTwoDigits();
         eachByteInAWord();
         blanksMayStandBetween();
@@ -27,6 +29,7 @@ public final class TextEdgesTest {
         fullGoesAhead();
         forcing();
         orAndNot();
+        theyAreOneOrZero();
         lessAndEqual();
         sums();
         terms();
@@ -107,6 +110,42 @@ public final class TextEdgesTest {
         due.is("and what comes is a TEXT", Due.text(x, "least 1;first 2;pull 3;"), 1);
     }
 
+    private static void nothingIsLeftOfATapeAhead() {
+        // Each is fed behind a longer tape, whose bytes would go on where this one ends.
+        String[][] tapes = {
+            {"least 1;first 2;pull 3456", "least 1;first 2;pull 3"},
+            {"least 1;first 2;pull 34567", "least 1;first 2;pull 3456"},
+            {"least 1;first 2;pull cost", "least 1;first 2;pull cos"},
+            {"least 1;first 2;pull bidx", "least 1;first 2;pull bid"},
+            {"least 1;first 2;pull     ", "least 1;first 2;pull "},
+            {"least 1;first 2;pull 3;;", "least 1;first 2;pull 3"}};
+        int[] place = {22, 25, 21, 24, 21, 22};
+        for (int i = 0; i < tapes.length; i++) {
+            CarpetEleven x = new CarpetEleven();
+            due.holds("a FAULT", Due.text(x, tapes[i][0]) <= -100);
+            due.is("fault of " + tapes[i][1], Due.text(x, tapes[i][1]), -100 - place[i]);
+        }
+    }
+
+    private static void nothingIsLeftOfATextAhead() {
+        // Texts of as many TOKENS as can be: 1+1+..; a third is as its own letters say.
+        StringBuilder ones = new StringBuilder("least 1");
+        while (ones.length() < 140) {
+            ones.append("+1");
+        }
+        int worth = (ones.length() - 5) / 2;
+        CarpetEleven x = new CarpetEleven();
+        due.is("a long one", Due.text(x, ones + ";first 2;pull 3;"), 1);
+        due.is("a long one with a FAULT", Due.text(x, ones + ";first 2;pull 3"), -100 - ones.length() - 15);
+        due.is("another long one", Due.text(x, ones + "+1;first 7;pull 3;"), 2);
+        x.seller(0, 1000);
+        x.force(1);
+        due.is("worth of the first", x.told(0, 7), worth);
+        x.force(2);
+        due.is("worth of the other", x.told(0, 7), worth + 1);
+        due.is("its first", x.anew(0), worth + 1);
+    }
+
     // ---- TOKENS
 
     private static void eachByteBetweenTwoDigits() {
@@ -182,6 +221,24 @@ public final class TextEdgesTest {
         for (String key : new String[] {"least", "first", "pull", "or", "and"}) {
             fault("least " + key + ";" + REST, 6);
         }
+        // A WORD that differs by one letter, wherever, is another.
+        for (String name : new String[] {"cost", "shoes", "hour", "bid", "said", "cups"}) {
+            for (int i = 0; i < name.length(); i++) {
+                fault("least " + name.substring(0, i) + "x" + name.substring(i + 1) + ";" + REST, 6);
+            }
+        }
+        fault("xeast 1;" + REST, 0);
+        fault("leasx 1;" + REST, 0);
+        fault("least 1;xirst 2;pull 3;", 8);
+        fault("least 1;firsx 2;pull 3;", 8);
+        fault("least 1;first 2;xull 3;", 16);
+        fault("least 1;first 2;pulx 3;", 16);
+        fault("least 1 xr 2;" + REST, 8);
+        fault("least 1 ox 2;" + REST, 8);
+        fault("least 1 xnd 2;" + REST, 8);
+        fault("least 1 anx 2;" + REST, 8);
+        fault("least xot 2;" + REST, 6);
+        fault("least nox 2;" + REST, 6);
         fault("leas 1;" + REST, 0);
         fault("leasts 1;" + REST, 0);
         fault("least 1;firs 2;pull 3;", 8);
@@ -206,6 +263,11 @@ public final class TextEdgesTest {
         fault("least 1;first 2;pull 3;;", 23);
         fault("least 1;first 2;pull 3;pull 3;", 23);
         fault("least 1;first 2;pull 3; \n1", 25);
+        for (String token : new String[] {"least", "first", "pull", "or", "and", "not", "cost", "shoes", "hour",
+            "bid", "said", "cups", "x", "0", "1234", "12345", "(", ")", ";", "+", "-", "*", "<", "=", "?"}) {
+            fault("least 1;first 2;pull 3;" + token, 23);
+            fault("least 1;first 2;pull 3; " + token + " ", 24);
+        }
         fault("least;first 2;pull 3;", 5);
         fault("least 1;first;pull 3;", 13);
         fault("least 1;first 2;pull;", 20);
@@ -411,6 +473,22 @@ public final class TextEdgesTest {
         worth("(not 0) + 1", 2);
         worth("5", 5);
         worth("(5)", 5);
+    }
+
+    private static void theyAreOneOrZero() {
+        // Behind 5 +, so that what is below 0 would be seen.
+        String[] zero = {"0 or 0", "0 and 0", "0 and 7", "7 and 0", "not 1", "not 7", "2 < 2", "3 < 2", "2 = 3"};
+        String[] one = {"0 or 7", "7 or 0", "7 or 8", "7 and 8", "not 0", "2 < 3", "2 = 2"};
+        for (String e : zero) {
+            worth("5 + (" + e + ")", 5);
+            worth("5 - (" + e + ")", 5);
+        }
+        for (String e : one) {
+            worth("5 + (" + e + ")", 6);
+            worth("5 - (" + e + ")", 4);
+        }
+        worth("5 + 0 * 7", 5);
+        worth("5 + (-0)", 5);
     }
 
     private static void lessAndEqual() {

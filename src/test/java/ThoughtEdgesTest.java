@@ -33,6 +33,7 @@ public final class ThoughtEdgesTest {
         hisCostZeroTo999();
         hisCostFromTheBeginning();
         hisCostStandsOpenBehindEach();
+        hisCostBids();
         hisCostSize();
         slipped();
         marketLimits();
@@ -45,6 +46,7 @@ public final class ThoughtEdgesTest {
         oddsOfSeeds();
         oddsInLowestTerms();
         imageKeeps();
+        imageKeepsWhatWasSet();
         imageKeepsNotMore();
         imageOfNone();
         counts();
@@ -458,6 +460,24 @@ public final class ThoughtEdgesTest {
         costIs(nine, 0, -1, -1);
     }
 
+    private static void hisCostBids() {
+        CarpetEleven x = by("least 0;first 1000+cost;pull 0;", 0, 9);
+        Due.row(x, 0, 2, 0, 1103 - 275);
+        costIs(x, 2, 103, 104);
+        Due.row(x, 0, 2, 1, 1105 - 276);
+        costIs(x, 2, 104, 105);
+        // -1 and 2000 are no bids, so no COST makes him say something behind them.
+        Due.row(x, 0, 2, -1, 1103 - 276);
+        costIs(x, 0, -1, -1);
+        Due.row(x, 0, 2, 2000, 1103);
+        costIs(x, 0, -1, -1);
+        CarpetEleven high = by("least 1999;first 1999;pull 0;", 3, 9);
+        Due.row(high, 0, 2, 1998, 1999);
+        costIs(high, 1000, 0, 999);
+        Due.row(high, 0, 2, 1999, 1999);
+        costIs(high, 0, -1, -1);
+    }
+
     private static void hisCostSize() {
         CarpetEleven x = by("least 0;first 1000;pull 0;", 5, 9);
         for (int size = 0; size <= 40; size++) {
@@ -495,9 +515,15 @@ public final class ThoughtEdgesTest {
             due.is("one SOLD, too", x.slipped(0, 280, 0), 280);
             due.is("his KIND stays", x.told(0, 0), kind);
         }
-        // A SLIP stays 3 CUPS: it is the third bid, at CUP 3, that he would take; there is no fourth.
-        CarpetEleven y = by("least 0;first 100;pull 0;", 0, 0);
-        due.is("100 at once", y.slipped(0, 100, 0), 100);
+        // Each, a STIFF too, would step towards a first bid of 0, by 1 at least; a SLIP does not.
+        CarpetEleven y = by("least 0;first 100+cost;pull 0;", 0, 0);
+        for (int kind = 1; kind < 6; kind++) {
+            y.seller(kind, 100 * kind);
+        }
+        for (int seller = 0; seller < 6; seller++) {
+            due.is("each by his own COST", y.slipped(seller, 0, 10), 100 + 10 * seller);
+            due.is("by rule, as he is", y.rule(seller, 0, 10, 1) == 100 + 10 * seller ? 1 : 0, seller == 3 ? 1 : 0);
+        }
         due.is("a is 0 .. 1999", y.slipped(0, 2000, 0), -2);
         due.is("p is 0 .. 10", y.slipped(0, 0, 11), -2);
     }
@@ -786,6 +812,29 @@ public final class ThoughtEdgesTest {
         x.anew(0);
         due.is("back to that one", x.back(), 0);
         due.is("SOLD", x.told(0, 6), 280);
+    }
+
+    private static void imageKeepsWhatWasSet() {
+        CarpetEleven x = new CarpetEleven();
+        Due.text(x, "least 1;first 500;pull 0;");
+        Due.text(x, "least 2;first 600;pull 0;");
+        x.seller(0, 1003);
+        x.set(0, 0, 9);
+        x.set(1, 0, 23);
+        x.set(2, 0, 1999);
+        x.force(2);
+        due.is("image", x.image(), 1);
+        due.is("an image changes nothing", x.count(3) + x.count(4) + x.count(5) + x.count(8), 9 + 23 + 1999 + 2);
+        x.set(0, 0, 0);
+        x.set(1, 0, 0);
+        x.set(2, 0, 0);
+        x.force(1);
+        due.is("back", x.back(), 1);
+        due.is("SHOES", x.count(3), 9);
+        due.is("THE HOUR", x.count(4), 23);
+        due.is("LIMIT", x.count(5), 1999);
+        due.is("THE RULE", x.count(8), 2);
+        due.is("it is in force", x.anew(0), 600);
     }
 
     private static void imageKeepsNotMore() {
